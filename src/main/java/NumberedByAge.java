@@ -152,27 +152,11 @@ public final class NumberedByAge {
   // ---- walks
 
   public int walk(int d, int plot) {
-    Shelf told = shelfAt(d);
-    if (told == null || !isPlot(plot)) {
-      return NO_SUCH_THING;
-    }
-    int refusal = told.refusalAsRowOf(SHORTS);
-    if (refusal != 0) {
-      return refusal;
-    }
-    return comesByAll(told, ALL_PLOTS) ? leastWay(told, plot) : NONE;
+    return wayBy(d, plot, true);
   }
 
   public int search(int d, int plot) {
-    Shelf told = shelfAt(d);
-    if (told == null || !isPlot(plot)) {
-      return NO_SUCH_THING;
-    }
-    int refusal = told.refusalAsRowOf(SHORTS);
-    if (refusal != 0) {
-      return refusal;
-    }
-    return comesByAll(told, ALL_PLOTS) ? wayOfSearch(told, plot) : NONE;
+    return wayBy(d, plot, false);
   }
 
   public int rise() {
@@ -454,11 +438,13 @@ public final class NumberedByAge {
 
   /** The first place at which no STREET can go on; NOWHERE: the text is one. */
   private static int stuckAt(Shelf text) {
-    for (int at = 0; at < text.size; at += lengthOf(text.at(at))) {
+    int at = 0;
+    for (int statements = 0; statements < text.size && at < text.size; statements++) {
       int stuck = stuckInStatement(text, at);
       if (stuck != NOWHERE) {
         return stuck;
       }
+      at += lengthOf(text.at(at));
     }
     return text.size == 0 ? 0 : NOWHERE;
   }
@@ -498,11 +484,13 @@ public final class NumberedByAge {
   /** Tries all STATEMENTS in mind first, for with a FAULT nothing of them comes. */
   private int carryOut(Shelf text) {
     mind.become(town);
+    int at = 0;
     int statements = 0;
-    for (int at = 0; at < text.size; at += lengthOf(text.at(at))) {
+    while (statements < text.size && at < text.size) {
       if (!isCarriedOut(text, at)) {
         return 2 * FAULT - at;
       }
+      at += lengthOf(text.at(at));
       statements++;
     }
     town.become(mind);
@@ -528,6 +516,22 @@ public final class NumberedByAge {
   }
 
   // ---- ways along the street
+
+  /** The way by the ROW in a SHELF, of one who knows the street or of one who does not. */
+  private int wayBy(int d, int plot, boolean knowing) {
+    Shelf told = shelfAt(d);
+    if (told == null || !isPlot(plot)) {
+      return NO_SUCH_THING;
+    }
+    int refusal = told.refusalAsRowOf(SHORTS);
+    if (refusal != 0) {
+      return refusal;
+    }
+    if (!comesByAll(told, ALL_PLOTS)) {
+      return NONE;
+    }
+    return knowing ? leastWay(told, plot) : wayOfSearch(told, plot);
+  }
 
   /** Whether each NUMBER told is that of a house on one of some PLOTS (bits). */
   private boolean comesByAll(Shelf told, int plots) {

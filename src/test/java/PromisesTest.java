@@ -407,6 +407,15 @@ public final class PromisesTest {
     }
     x.burn(0);
     due("with no room for an EVENT, too", 31, x.would(0, 1));
+    x = under(8, 1, 0);
+    for (int plot = 0; plot < 12; plot++) {
+      due("build", plot + 1, x.build(plot, 1));
+    }
+    due("a GAP's with all PLOTS taken", 13, x.would(0, 1));
+    x.burn(11);
+    due("a GAP's with all but one taken", 12, x.would(0, 1));
+    x.burn(10);
+    due("the least of two", 11, x.would(0, 1));
   }
 
   private static void promise9Where() {
