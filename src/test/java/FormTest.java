@@ -35,6 +35,7 @@ public final class FormTest {
   private static final Set<String> TYPES = Set.of(
       "String", "StringBuilder", "Integer", "Long", "Math", "System", "Arrays", "ArrayList", "List", "Iterator",
       "Iterable", "Comparable");
+  // Rule 4 lets in more of their like over int and long: whoever needs one adds it here.
   private static final Set<String> FUNCTIONS = Set.of(
       "System.arraycopy", "Arrays.copyOf", "Arrays.copyOfRange", "Arrays.fill", "List.of",
       "Math.max", "Math.min", "Math.abs", "Math.floorDiv", "Math.floorMod",
@@ -47,8 +48,11 @@ public final class FormTest {
       "Throwable", "Error", "StackOverflowError", "OutOfMemoryError");
   private static final Pattern FORBIDDEN = Pattern.compile(
       "->|::|@|\\b(package|finally|synchronized|assert|native|volatile|transient|var|protected|goto"
-          + "|getMessage|hashCode|toString|equals)\\b|Exact\\s*\\(|while\\s*\\(\\s*true|;\\s*;|\"\"\\s*\\+|\\+\\s*\"\""
+          + "|getMessage)\\b|Exact\\s*\\(|while\\s*\\(\\s*true|;\\s*;|\"\"\\s*\\+|\\+\\s*\"\""
           + "|\\]\\s*\\[\\s*\\]\\s*\\[|\\bstatic\\s*\\{|\\btry\\s*\\(");
+  private static final Pattern CONSTANT = Pattern.compile(
+      "(?s)(private )?static final ((int|long|boolean|char|String)|(int|long|char|byte)\\[\\]) \\w+ =.*");
+  private static final Set<String> NOT_OF_OBJECTS = Set.of("equals", "hashCode", "toString");
 
   private static final class Method {
     String owner;
@@ -197,14 +201,14 @@ public final class FormTest {
       faults.add("rule 11: " + source.types.size() + " classes");
     }
     for (Type type : source.types.values()) {
-      if (!type.name.equals(OUTER) && !type.head.startsWith("private static ")) {
-        faults.add("rules 1 and 2: " + type.head);
+      if (!type.name.equals(OUTER) && type.head.contains("public ")) {
+        faults.add("rule 1: " + type.head);
       }
       int ofObjects = 0;
       for (String field : type.fields) {
-        if (!field.contains(" static ")) {
+        if (!field.matches("(?s)(private )?static .*")) {
           ofObjects++;
-        } else if (!field.matches("(?s)private static final (int|long|boolean|char|String)(\\[\\])? [^=]*=.*")) {
+        } else if (!CONSTANT.matcher(field).matches()) {
           faults.add("rule 5: " + field);
         }
       }
@@ -223,8 +227,8 @@ public final class FormTest {
       if (method.lines > MOST_LINES) {
         faults.add("rule 11: " + method.name + " has " + method.lines + " lines");
       }
-      if (!method.owner.equals(OUTER) && method.head.startsWith("public ")) {
-        faults.add("rule 1: " + method.head);
+      if (NOT_OF_OBJECTS.contains(method.name)) {
+        faults.add("rule 6: " + method.owner + "." + method.name);
       }
     }
   }
@@ -346,7 +350,8 @@ public final class FormTest {
       {"a clock", "private static long f() { return System.nanoTime(); }"},
       {"a static state", "private static int state;"},
       {"an array of objects", "private static final Law[] ALL = {null};"},
-      {"a package-visible class", "static final class Open { }"},
+      {"a class that is shown", "public static final class Open { }"},
+      {"a text of an object of its own", "private static class Bad { String toString() { return null; } }"},
       {"joined texts", "private static String f(int x) { return \"a\" + x; }"},
       {"a loop without an end", "private static void f() { while (true) { f(1); } }"},
       {"a for without an end", "private static void f() { for (;;) { g(); } }"},
@@ -359,7 +364,7 @@ public final class FormTest {
       {"a look at what is caught",
         "private static void f() { try { g(); } catch (IllegalStateException e) { h(e); } }"},
       {"a try round a throw",
-        "private static void f() { try { throw new ArithmeticException(); } catch (IllegalStateException e) { h(); } }"},
+        "private static void f() { try { throw new ArithmeticException(); } catch (IllegalStateException e) { } }"},
       {"a finally", "private static void f() { try { g(); } finally { h(); } }"},
       {"a throw in a constructor", "private static class Bad { Bad() { throw new IllegalStateException(); } }"},
       {"eight parameters", "private static void f(int a, int b, int c, int d, int e, int g, int h, int i) { }"},
